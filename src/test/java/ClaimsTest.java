@@ -14,6 +14,7 @@ public final class ClaimsTest {
             guestTwoIsAskedWhenBothHoldAsMany(block);
             nothingIsAskedForTwice(block);
             anAskedBindingIsTakenThoughNoneNeedsIt(block);
+            theSixtiethBindingCanBeAskedFor(block);
         }
         kindsAreAskedForApart();
         anApplicationWaitsForTheEarliestDeadlineOfTheKind();
@@ -99,7 +100,7 @@ public final class ClaimsTest {
         bindMany(x, 2, !block, 8);
         bindMany(x, 2, block, half - 1);
         bindMany(x, 3, block, half + 1);
-        claimByApplication(x, block);
+        claimByApplication(x, block, 0);
         CHECKS.due("guest 3 lost its last", x.state(3, half), 1);
         CHECKS.due("guest 2 did not", x.state(2, half + 6), 2);
         CHECKS.due("losses of 3", x.losses(3), 1);
@@ -107,10 +108,10 @@ public final class ClaimsTest {
         CHECKS.due("time", x.time(), 5);
     }
 
-    /** A claim of the other kind than the given one finds something free. */
-    private static void claimByApplication(BindingKernel x, boolean block) {
+    /** By an append to an empty file: it claims one of each kind, and the other kind is not scarce. */
+    private static void claimByApplication(BindingKernel x, boolean block, int name) {
         int before = x.held(1, block);
-        CHECKS.due("append", x.append(1, 0, 1), true);
+        CHECKS.due("append", x.append(1, name, 1), true);
         CHECKS.due("held by the application", x.held(1, block), before + 1);
     }
 
@@ -119,10 +120,10 @@ public final class ClaimsTest {
         int half = sizeOf(block) / 2;
         bindMany(x, 2, block, half);
         bindMany(x, 3, block, half);
-        claimByApplication(x, block);
+        claimByApplication(x, block, 0);
         CHECKS.due("guest 2 lost its last", x.state(2, half - 1), 1);
         CHECKS.due("guest 3 did not", x.state(3, half - 1), 2);
-        x.append(1, 1, 1);
+        claimByApplication(x, block, 1);
         CHECKS.due("then guest 3 holds more", x.state(3, half - 1), 1);
         CHECKS.due("time", x.time(), 10);
     }
@@ -156,6 +157,24 @@ public final class ClaimsTest {
         CHECKS.due("still asked for", x.state(2, size - 1), 3);
         CHECKS.due("taken all the same", x.pass(5), 1);
         CHECKS.due("free", x.free(block), 1);
+    }
+
+    private static void theSixtiethBindingCanBeAskedFor(boolean block) {
+        BindingKernel x = new BindingKernel();
+        int ended = 60 - sizeOf(block);
+        for (int ticket = 0; ticket < ended; ticket++) {
+            x.bind(2, block);
+            x.release(2, ticket);
+        }
+        bindMany(x, 2, block, sizeOf(block));
+        CHECKS.due("claim of the other guest", x.bind(3, block), WAITS);
+        CHECKS.due("the last of 60 is asked for", x.state(2, 59), 3);
+        CHECKS.due("the one before is not", x.state(2, 58), 2);
+        claimByApplication(x, block, 0);
+        CHECKS.due("the last of 60 was taken", x.state(2, 59), 1);
+        claimByApplication(x, block, 1);
+        CHECKS.due("the one before was taken", x.state(2, 58), 1);
+        CHECKS.due("time", x.time(), 10);
     }
 
     private static void kindsAreAskedForApart() {
