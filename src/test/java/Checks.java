@@ -1,6 +1,7 @@
 /** Counts the answers that are not as due and tells them. */
 final class Checks {
     private final String test;
+    private String sentence = "";
     private int made;
     private int wrong;
 
@@ -8,11 +9,16 @@ final class Checks {
         this.test = test;
     }
 
+    /** The sentence of the document that the next checks would see broken. */
+    void about(String words) {
+        sentence = " ['" + words + "']";
+    }
+
     void due(String what, int got, int want) {
         made++;
         if (got != want) {
             wrong++;
-            System.out.println(test + ": " + what + " answered " + got + ", due is " + want);
+            System.out.println(test + ": " + what + " answered " + got + ", due is " + want + sentence);
         }
     }
 
