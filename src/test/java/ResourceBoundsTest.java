@@ -14,6 +14,8 @@ public final class ResourceBoundsTest {
             onlyDeadlinesAboveTheTimeAreLeft(block);
         }
         aResourceHasFourWords();
+        everyResourceHasWordsOfItsOwn();
+        filesOfTheLastBlocksKeepTheirWords();
         wordsAreZeroAfterARelease();
         wordsAreZeroAfterATaking();
         wordsOfAFrameAreZeroAfterASqueeze();
@@ -84,6 +86,46 @@ public final class ResourceBoundsTest {
         for (int i = 0; i < 4; i++) {
             CHECKS.due("get of word " + i, x.get(2, 0, i), words[i]);
             CHECKS.due("word " + i + " by way of a block", x.get(2, 1, i), words[i]);
+        }
+    }
+
+    private static void everyResourceHasWordsOfItsOwn() {
+        CHECKS.about("12 FRAMES and 24 BLOCKS; each has four words");
+        BindingKernel x = Scenes.withBindings(12, 24, 0, 0);
+        for (int block = 12; block < 36; block++) {
+            Scenes.putAll(x, 2, 0, 10 * block);
+            CHECKS.due("copy to a block", x.copy(2, 0, block), true);
+        }
+        for (int frame = 0; frame < 12; frame++) {
+            Scenes.putAll(x, 2, frame, 10 * frame);
+        }
+        for (int frame = 0; frame < 12; frame++) {
+            frameIs(x, frame, 10 * frame);
+        }
+        for (int block = 12; block < 36; block++) {
+            CHECKS.due("copy from a block", x.copy(2, block, 11), true);
+            frameIs(x, 11, 10 * block);
+        }
+        frameIs(x, 10, 100);
+    }
+
+    private static void frameIs(BindingKernel x, int ticket, int first) {
+        for (int i = 0; i < 4; i++) {
+            CHECKS.due("word " + i + " of frame " + ticket, x.get(2, ticket, i), first + i);
+        }
+    }
+
+    private static void filesOfTheLastBlocksKeepTheirWords() {
+        CHECKS.about("12 FRAMES and 24 BLOCKS; each has four words");
+        for (int app = 0; app < 2; app++) {
+            BindingKernel x = Scenes.withBindings(9, 18, 0, 0);
+            Scenes.fill(x, app, 2, 24);
+            for (int i = 0; i < 24; i++) {
+                CHECKS.due("word " + i, x.read(app, 2, i), Scenes.wordOf(2, i));
+            }
+            CHECKS.due("free frames", x.free(false), 0);
+            CHECKS.due("free blocks", x.free(true), 0);
+            CHECKS.due("time", x.time(), 0);
         }
     }
 
